@@ -1,0 +1,302 @@
+import java.util.Random;
+
+/** Promises 28 to 34 and 39 to 45: gifts, trades, sets of children, and the rest of what they keep and wish. */
+public final class MarketTest {
+    private static final String WORTHS = "thing a meant 1 size 0 warm 0 worth 40;thing b meant 1 size 0 warm 0 worth 40;"
+            + "thing c meant 0 size 0 warm 0 worth 90;thing d meant 1 size 0 warm 0 worth 10;";
+
+    public static void main(String[] args) {
+        gives();
+        trades();
+        swaps();
+        sets();
+        bests();
+        wrongChildren();
+        byForce();
+        Kit.close("MarketTest");
+    }
+
+    /** A parish of opened fists: letters of what each keeps (. for nothing) and wishes for (. for none). */
+    private static ShutFists opened(String keeps, String wishes) {
+        ShutFists x = Kit.parish(WORTHS + "month 0");
+        for (int c = 0; c < keeps.length(); c++) {
+            String inside = keeps.charAt(c) == '.' ? "none" : "" + keeps.charAt(c);
+            String wish = wishes.charAt(c) == '.' ? "" : " wish " + wishes.charAt(c);
+            Kit.text(x, "child " + inside + wish).parish();
+            Kit.openFist(x, c);
+        }
+        return x;
+    }
+
+    private static void gives() {
+        ShutFists x = opened("abba.", "bab.a");
+        Kit.due("how many", x.gives(-1), 4);
+        int[] to = {1, 0, 2, 4, -1};
+        for (int c = 0; c < to.length; c++) {
+            Kit.due("gives " + c, x.gives(c), to[c]);
+        }
+        ShutFists two = opened("aab", ".a.");
+        Kit.due("one wish for two", two.gives(-1), 1);
+        Kit.due("none behind all", two.gives(0), 1);
+        Kit.due("the wish is taken", two.gives(1), -1);
+        Kit.due("nobody wishes it", two.gives(2), -1);
+        ShutFists shut = Kit.parish("child a;child b wish a");
+        Kit.due("those shut give nothing", shut.gives(-1), 0);
+        Kit.openFist(shut, 0);
+        Kit.due("those shut may get it", shut.gives(0), 1);
+    }
+
+    private static void trades() {
+        ShutFists x = opened("abc.d", "bc...");
+        int[] gets = {1, 2, 2, -1, 4};
+        Kit.due("trade 2 keeps the most", x.trade(2), 2);
+        Kit.due("ring alone", x.ring(2), 1);
+        Kit.due("trade of nothing", x.trade(3), -1);
+        Kit.due("ring of nothing", x.ring(3), 0);
+        Kit.due("trade 1: c is gone, a is like its own", x.trade(1), 1);
+        Kit.due("trade 0: b is gone, as 1 kept it", x.trade(0), 0);
+        Kit.due("trade 4", x.trade(4), gets[4]);
+        ShutFists ring = opened("abd", "bda");
+        for (int c = 0; c < 3; c++) {
+            Kit.due("a ring of three", ring.trade(c), (c + 1) % 3);
+            Kit.due("a ring of three", ring.ring(c), 3);
+        }
+        ShutFists worth = opened("dcac", "c.d.");
+        Kit.due("1 keeps its c, and 3", worth.trade(1) + 10 * worth.trade(3), 31);
+        Kit.due("0 has no c then, but a for its d", worth.trade(0) + 10 * worth.trade(2), 2);
+        Kit.due("as two", worth.ring(0) + 10 * worth.ring(1), 12);
+        ShutFists wish = opened("ddcc", "c.a.");
+        wish.wish(2, 3);
+        Kit.due("a wish above worth, of several the least", wish.trade(0) + 10 * wish.trade(2), 2);
+        ShutFists pair = opened("dca", "cd.");
+        Kit.due("a ring of two", pair.trade(0) + 10 * pair.trade(1), 1);
+        Kit.due("a ring of two", pair.ring(0) + 10 * pair.ring(1) + 100 * pair.ring(2), 122);
+    }
+
+    private static void swaps() {
+        ShutFists x = opened("dca.b", "cd...");
+        Kit.due("both by wishes", x.swap(0, 1), true);
+        Kit.due("both by wishes", x.swap(1, 0), true);
+        Kit.due("one alone", x.swap(1, 2), false);
+        Kit.due("with nothing", x.swap(0, 3), false);
+        Kit.due("with nothing", x.swap(3, 0), false);
+        Kit.due("like ones", x.swap(2, 4), false);
+        x.wish(2, 1);
+        Kit.due("one would, one is alike", x.swap(2, 4), false);
+        x.wish(4, 0);
+        Kit.due("both would", x.swap(2, 4), true);
+        Kit.raises("both are one", IllegalArgumentException.class, () -> x.swap(3, 3) ? 1 : 0);
+        Kit.raises("none", IndexOutOfBoundsException.class, () -> x.swap(5, 5) ? 1 : 0);
+        Kit.raises("none", IndexOutOfBoundsException.class, () -> x.swap(0, -1) ? 1 : 0);
+    }
+
+    private static void sets() {
+        ShutFists x = opened("aba.ba", "aa.cc.");
+        Kit.due("all", x.all(), 3);
+        Kit.due("missing", x.missing(), 248);
+        Kit.due("nobody", x.nobody(), 1);
+        Kit.due("content", x.content(), 1);
+        Kit.due("twins", x.twins(), 4);
+        Kit.due("open", x.open(), 63);
+        Kit.due("shut", x.shut(), 0);
+        x.blow(0);
+        Kit.due("all", x.all(), 6);
+        Kit.due("twins", x.twins(), 2);
+        Kit.due("content", x.content(), 0);
+        x.wish(3, -1);
+        Kit.due("no wish and nothing is no content", x.content(), 0);
+        x.birth();
+        Kit.due("shut", x.shut(), 64);
+        x.move(6, 1);
+        Kit.due("shut in all fingers alone", x.shut(), 0);
+        Kit.due("not opened yet", x.open(), 63);
+        Kit.text(x, "child a").parish();
+        Kit.due("knotted", x.knotted(), 0);
+        x.move(6, 1);
+        Kit.text(x, "knot 6 7").parish();
+        Kit.due("knotted", x.knotted(), 192);
+        for (int t = 0; t < 7; t++) {
+            x.wish(t, t);
+        }
+        Kit.due("nobody", x.nobody(), 7);
+        x.wish(7, 7);
+        Kit.due("nobody, of several the least", x.nobody(), 0);
+    }
+
+    private static void bests() {
+        ShutFists x = opened("dab", "...");
+        Kit.due("richest, of several the least", x.richest(), 1);
+        x.blow(1);
+        Kit.due("richest", x.richest(), 2);
+        x.blow(2);
+        x.blow(0);
+        Kit.due("none", x.richest(), -1);
+        Kit.due("oldest of none", x.oldest(), -1);
+        ShutFists worthless = opened(".e", "..");
+        Kit.due("a thing of no worth is something", worthless.richest(), 1);
+        ShutFists y = Kit.parish("child a age 3;child a age 9;child a age 9;child a");
+        Kit.due("oldest, of several the least", y.oldest(), 1);
+        Kit.openFist(y, 1);
+        Kit.due("oldest not opened", y.oldest(), 2);
+        Kit.openFist(y, 2);
+        Kit.openFist(y, 0);
+        Kit.due("oldest of age 0", y.oldest(), 3);
+    }
+
+    private static void wrongChildren() {
+        ShutFists x = Kit.parish("child a");
+        for (int c : new int[] {1, 8, -2, Integer.MIN_VALUE, Integer.MAX_VALUE}) {
+            Kit.raises("gives", IndexOutOfBoundsException.class, () -> x.gives(c));
+            Kit.raises("trade", IndexOutOfBoundsException.class, () -> x.trade(c));
+            Kit.raises("ring", IndexOutOfBoundsException.class, () -> x.ring(c));
+        }
+        Kit.raises("trade", IndexOutOfBoundsException.class, () -> x.trade(-1));
+        Kit.raises("ring", IndexOutOfBoundsException.class, () -> x.ring(-1));
+        Kit.due("gives how many", x.gives(-1), 0);
+    }
+
+    /** Gifts and sets against all ways there are; trades against the rule that no set of children would leave them. */
+    private static void byForce() {
+        Random random = new Random(3);
+        for (int run = 0; run < 60; run++) {
+            int n = 1 + random.nextInt(6);
+            StringBuilder keeps = new StringBuilder();
+            StringBuilder wishes = new StringBuilder();
+            for (int c = 0; c < n; c++) {
+                keeps.append(".abcde".charAt(random.nextInt(6)));
+                wishes.append("..abcde".charAt(random.nextInt(7)));
+            }
+            ShutFists x = opened(keeps.toString(), wishes.toString());
+            String name = keeps + " " + wishes;
+            int[] best = firstGifts(x, n);
+            int given = 0;
+            for (int c = 0; c < n; c++) {
+                Kit.due("gives " + c + " of " + name, x.gives(c), best[c]);
+                given += best[c] >= 0 ? 1 : 0;
+            }
+            Kit.due("gives of " + name, x.gives(-1), given);
+            Kit.due("all of " + name, x.all(), leastSet(x, n));
+            checkTrade(x, n, name);
+        }
+    }
+
+    private static int[] firstGifts(ShutFists x, int n) {
+        int[][] best = new int[1][];
+        search(x, new int[n], 0, best);
+        return best[0];
+    }
+
+    /** Goes through all ways in their order, and keeps the first of those with the most gifts. */
+    private static void search(ShutFists x, int[] way, int c, int[][] best) {
+        if (c == way.length) {
+            if (best[0] == null || gifts(way) > gifts(best[0])) {
+                best[0] = way.clone();
+            }
+            return;
+        }
+        for (int i = -1; i <= way.length; i++) {
+            int to = i == -1 ? c : i == way.length ? -1 : i;
+            if (i == c || to >= 0 && (x.child(c, 5) < 0 || x.child(to, 4) != x.child(c, 5))) {
+                continue;
+            }
+            boolean taken = false;
+            for (int b = 0; b < c; b++) {
+                taken |= to >= 0 && way[b] == to;
+            }
+            if (!taken) {
+                way[c] = to;
+                search(x, way, c + 1, best);
+            }
+        }
+    }
+
+    private static int gifts(int[] way) {
+        int given = 0;
+        for (int to : way) {
+            given += to >= 0 ? 1 : 0;
+        }
+        return given;
+    }
+
+    private static int leastSet(ShutFists x, int n) {
+        int best = -1;
+        int wanted = things(x, (1 << n) - 1);
+        for (int set = 0; set < 1 << n; set++) {
+            boolean all = things(x, set) == wanted;
+            if (all && (best < 0 || Integer.bitCount(set) < Integer.bitCount(best))) {
+                best = set;
+            }
+        }
+        return best;
+    }
+
+    private static int things(ShutFists x, int set) {
+        int bits = 0;
+        for (int c = 0; c < x.count(0); c++) {
+            if ((set >> c & 1) != 0 && x.child(c, 5) >= 0) {
+                bits |= 1 << x.child(c, 5);
+            }
+        }
+        return bits;
+    }
+
+    private static int likes(ShutFists x, int child, int owner) {
+        int thing = x.child(owner, 5);
+        return thing == x.child(child, 4) ? 100 : x.thing(thing, 3);
+    }
+
+    private static void checkTrade(ShutFists x, int n, String name) {
+        int[] gets = trade(x, n);
+        for (int c = 0; c < n; c++) {
+            Kit.due("trade " + c + " of " + name, x.trade(c), gets[c]);
+            if (gets[c] < 0) {
+                Kit.due("ring " + c + " of " + name, x.ring(c), 0);
+                continue;
+            }
+            Kit.due("none gets what it likes less: " + name, likes(x, c, gets[c]) >= likes(x, c, c), true);
+            int length = 1;
+            for (int at = gets[c]; at != c; at = gets[at]) {
+                length++;
+            }
+            Kit.due("ring " + c + " of " + name, x.ring(c), length);
+        }
+    }
+
+    /** One ring at a time, found by walking the pointers from the greatest child that is left. */
+    private static int[] trade(ShutFists x, int n) {
+        int[] gets = new int[n];
+        int left = 0;
+        for (int c = 0; c < n; c++) {
+            gets[c] = -1;
+            left |= x.child(c, 5) >= 0 ? 1 << c : 0;
+        }
+        while (left != 0) {
+            int at = 31 - Integer.numberOfLeadingZeros(left);
+            for (int i = 0; i < n; i++) {
+                at = points(x, at, left);
+            }
+            int stop = at;
+            int ring = 0;
+            do {
+                int to = points(x, at, left);
+                gets[at] = to;
+                ring |= 1 << at;
+                at = to;
+            } while (at != stop);
+            left &= ~ring;
+        }
+        return gets;
+    }
+
+    private static int points(ShutFists x, int child, int left) {
+        int most = -1;
+        int best = -1;
+        for (int c = 0; c < x.count(0); c++) {
+            if ((left >> c & 1) != 0 && likes(x, child, c) > most) {
+                most = likes(x, child, c);
+                best = c;
+            }
+        }
+        return likes(x, child, child) == most ? child : best;
+    }
+}
