@@ -253,6 +253,11 @@ public final class ActTest {
         Kit.due("share", x.child(0, 11), 90);
         Kit.due("share", x.child(1, 11), 9);
         Kit.due("share", x.child(2, 11), 0);
+        ShutFists least = Kit.parish("thing a meant 1 size 0 warm 0 worth 1;child a;child b");
+        Kit.openFist(least, 1);
+        Kit.due("no fate, no share", least.child(1, 11), 0);
+        Kit.openFist(least, 0);
+        Kit.due("all there is", least.child(0, 11), 100);
     }
 
     private static void logs() {

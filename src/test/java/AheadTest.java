@@ -6,6 +6,7 @@ public final class AheadTest {
         many();
         laws();
         trials();
+        spanSeeds();
         wrongNumbers();
         nothingStays();
         Kit.close("AheadTest");
@@ -122,6 +123,45 @@ public final class AheadTest {
         y.months(12);
         Kit.due("as the months then come", y.open(), bits);
         Kit.due("as the months then come", y.count(6), fate);
+    }
+
+    /** Where seed 1 or seed 6 alone is the least or the greatest, the span tells it; what seeds 0 and 7 bring does not count. */
+    private static void spanSeeds() {
+        boolean[] seen = new boolean[8];
+        for (int loosen = 0; loosen <= 90; loosen += 3) {
+            ShutFists x = Kit.parish("child a grip 0;child a grip 0;child a grip 0;child a grip 0");
+            Kit.law(x, "loosen " + loosen);
+            for (int n = 5; n <= 45; n += 10) {
+                int[] opened = new int[8];
+                for (int seed = 0; seed < 8; seed++) {
+                    x.seed(seed);
+                    opened[seed] = Integer.bitCount(x.trial(n, false));
+                }
+                int least = opened[1];
+                int most = opened[1];
+                for (int seed = 2; seed <= 6; seed++) {
+                    least = Math.min(least, opened[seed]);
+                    most = Math.max(most, opened[seed]);
+                }
+                seen[0] |= opened[0] < least || opened[0] > most;
+                seen[7] |= opened[7] < least || opened[7] > most;
+                seen[1] |= isLone(opened, 1);
+                seen[6] |= isLone(opened, 6);
+                Kit.due("the least", x.span(n, false), least);
+                Kit.due("the greatest", x.span(n, true), most);
+            }
+        }
+        Kit.due("each end was seen", seen[0] && seen[1] && seen[6] && seen[7], true);
+    }
+
+    private static boolean isLone(int[] opened, int seed) {
+        boolean above = true;
+        boolean below = true;
+        for (int other = 1; other <= 6; other++) {
+            above &= other == seed || opened[other] < opened[seed];
+            below &= other == seed || opened[other] > opened[seed];
+        }
+        return above || below;
     }
 
     private static void wrongNumbers() {

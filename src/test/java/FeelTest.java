@@ -1,4 +1,7 @@
+import java.util.HashMap;
+import java.util.Map;
 import java.util.NoSuchElementException;
+import java.util.Random;
 
 /** Promises 20 to 22 and 35 to 38: feels, odds, the laws of leading, choices and births of nothing. */
 public final class FeelTest {
@@ -16,6 +19,8 @@ public final class FeelTest {
         ruleTapes();
         rests();
         nothings();
+        lightest();
+        byForce();
         Kit.close("FeelTest");
     }
 
@@ -181,5 +186,89 @@ public final class FeelTest {
         Kit.due("no weights: none fits", Kit.tape(x).feels(0), 0);
         Kit.due("no weights: odds", Kit.tape(x).odds(8), 0);
         Kit.due("no weights: expect", Kit.tape(x).feels(2), 0);
+    }
+
+    /** A single weight of 1. */
+    private static void lightest() {
+        ShutFists x = Kit.parish("thing a meant 0 size 0 warm 0 worth 0;thing b meant 1 size 0 warm 0 worth 70;"
+                + "thing c meant 0 size 0 warm 0 worth 0;empty 0" + NO_REST);
+        Kit.due("likely", Kit.tape(x).feels(1), 1);
+        Kit.due("odds", Kit.tape(x).odds(1), 10000);
+        Kit.due("expect", Kit.tape(x).feels(2), 70);
+        x.birth();
+        Kit.due("birth", x.child(0, 1), 1);
+        Kit.text(x, "thing b meant 0 size 0 warm 0 worth 70;empty 1").parish();
+        Kit.due("nothing", x.nothing(1), 10000);
+    }
+
+    /** What to feel and what to tell, against a count of each part. */
+    private static void byForce() {
+        Random random = new Random(8);
+        for (int run = 0; run < 40; run++) {
+            int spread = 2 + random.nextInt(6);
+            int[][] facts = new int[9][];
+            StringBuilder text = new StringBuilder();
+            for (int t = 0; t < 9; t++) {
+                facts[t] = new int[] {random.nextInt(3), random.nextInt(spread), random.nextInt(spread), random.nextInt(10 * spread)};
+                if (t < 8) {
+                    text.append("thing ").append((char) ('a' + t)).append(" meant ").append(facts[t][0]).append(" size ")
+                            .append(facts[t][1]).append(" warm ").append(facts[t][2]).append(" worth ").append(facts[t][3]).append(';');
+                }
+            }
+            facts[8] = new int[] {random.nextInt(3), 0, 0, 0};
+            ShutFists x = Kit.parish(text + "empty " + facts[8][0]);
+            int what = random.nextInt(3);
+            int felt = random.nextInt(spread);
+            Kit.due("ask of all", Kit.tape(x).ask(), bestFeel(facts, x, new int[0]));
+            Kit.due("ask", Kit.tape(x, what, felt).ask(), bestFeel(facts, x, new int[] {what, felt}));
+            int thing = random.nextInt(8);
+            int fate = random.nextInt(256);
+            Kit.due("tell of all", Kit.tape(x).tell(), bestThing(facts, -1, 0));
+            Kit.due("tell", Kit.tape(x, thing, fate).tell(), bestThing(facts, thing, fate));
+        }
+    }
+
+    private static int bestFeel(int[][] facts, ShutFists x, int[] rows) {
+        int fits = Kit.tape(x, rows).feels(0);
+        int best = -1;
+        int least = 99;
+        for (int what = 0; what < 3 && Integer.bitCount(fits) > 1; what++) {
+            Map<Integer, Integer> parts = new HashMap<>();
+            int greatest = 0;
+            for (int t = 0; t < 9; t++) {
+                if ((fits >> t & 1) != 0) {
+                    int felt = what == 2 ? facts[t][3] / 10 : facts[t][what + 1];
+                    greatest = Math.max(greatest, parts.merge(felt, 1, Integer::sum));
+                }
+            }
+            if (greatest < least) {
+                least = greatest;
+                best = what;
+            }
+        }
+        return best;
+    }
+
+    private static int bestThing(int[][] facts, int thing, int fate) {
+        int best = -1;
+        int least = 9999;
+        for (int t = 0; t < 8; t++) {
+            Map<Integer, Integer> parts = new HashMap<>();
+            int greatest = 0;
+            int fitting = 0;
+            for (int m = 0; m < 10; m++) {
+                for (int k = 0; k < 100; k++) {
+                    if (thing < 0 || facts[thing][3] * m + k == fate) {
+                        greatest = Math.max(greatest, parts.merge(facts[t][3] * m + k, 1, Integer::sum));
+                        fitting++;
+                    }
+                }
+            }
+            if (fitting > 1 && greatest < least) {
+                least = greatest;
+                best = t;
+            }
+        }
+        return best;
     }
 }

@@ -68,6 +68,15 @@ public final class MarketTest {
         ShutFists wish = opened("ddcc", "c.a.");
         wish.wish(2, 3);
         Kit.due("a wish above worth, of several the least", wish.trade(0) + 10 * wish.trade(2), 2);
+        ShutFists high = opened("ad", "d.");
+        Kit.text(high, "thing a meant 1 size 0 warm 0 worth 99").parish();
+        Kit.due("a wish above the worth of 99", high.trade(0) + 10 * high.trade(1), 1);
+        Kit.due("a wish above the worth of 99", high.swap(0, 1), true);
+        ShutFists eight = opened("abcdefgh", "bcdefgha");
+        for (int c = 0; c < 8; c++) {
+            Kit.due("a ring of eight", eight.trade(c), (c + 1) % 8);
+            Kit.due("a ring of eight", eight.ring(c), 8);
+        }
         ShutFists pair = opened("dca", "cd.");
         Kit.due("a ring of two", pair.trade(0) + 10 * pair.trade(1), 1);
         Kit.due("a ring of two", pair.ring(0) + 10 * pair.ring(1) + 100 * pair.ring(2), 122);
@@ -132,6 +141,7 @@ public final class MarketTest {
         x.blow(0);
         Kit.due("none", x.richest(), -1);
         Kit.due("oldest of none", x.oldest(), -1);
+        Kit.due("the first one is richest", opened("cab", "...").richest(), 0);
         ShutFists worthless = opened(".e", "..");
         Kit.due("a thing of no worth is something", worthless.richest(), 1);
         ShutFists y = Kit.parish("child a age 3;child a age 9;child a age 9;child a");

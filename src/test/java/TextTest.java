@@ -127,6 +127,9 @@ public final class TextTest {
         Kit.wrongParish(x, "loosen 5", 0);
         Kit.wrongParish(x, EIGHT + "; child a", 65);
         Kit.wrongParish(x, EIGHT + ";child", 64);
+        Kit.wrongParish(x, EIGHT + ";knot 0 8", 71);
+        Kit.wrongParish(x, EIGHT + ";knot 8 0", 69);
+        Kit.wrongParish(x, "(".repeat(400), 0);
         Kit.wrongParish(x, "month1;".repeat(14), 98);
         Kit.wrongParish(x, "month1;".repeat(14) + " x", 99);
     }
@@ -265,6 +268,9 @@ public final class TextTest {
         Kit.wrongLaw(x, "lead 5 if (((((((wished)))))))", 16);
         Kit.wrongLaw(x, "lead 5 if not(not(not(not wished)))", 22);
         Kit.due("6 deep", Kit.text(x, "lead 5 if not(not(not(wished)))and not(not(not(wished)))").law(), 1);
+        Kit.wrongLaw(x, "lead 5 if 1>" + "1+".repeat(194), 400);
+        Kit.wrongLaw(x, "lead 5 if " + "7".repeat(390), 10);
+        Kit.wrongLaw(x, "lead 5 if " + "a".repeat(390), 10);
         Kit.due("as bytes allow", Kit.text(x, "lead 5 if 0" + "+1".repeat(190) + "<200").law(), 1);
         Kit.due("a long sum", x.child(0, 10), 5);
         Kit.due("many atoms", Kit.text(x, "lead 5 if 1>2" + "or 1>2".repeat(60) + "or 2>1").law(), 1);
