@@ -1193,10 +1193,10 @@ public final class ShutFists {
         }
 
         boolean take(int code) {
-            if (codes[at] != code) {
+            if (at >= size || codes[at] != code) {
                 return false;
             }
-            step();
+            at++;
             return true;
         }
 
@@ -1454,7 +1454,14 @@ public final class ShutFists {
                 step();
                 return law.put(code);
             }
-            return readSum() && readOtherSum();
+            if (!readSum()) {
+                return false;
+            }
+            int join = code();
+            if (!take(Text.LESS) && !take(Text.MORE)) {
+                return false;
+            }
+            return readSum() && law.put(join);
         }
 
         private boolean readDeeper(int depth) {
@@ -1462,14 +1469,6 @@ public final class ShutFists {
                 return readAtom(depth) && law.put(Text.NOT_WORD);
             }
             return take(Text.LEFT) && readCondition(depth) && take(Text.RIGHT);
-        }
-
-        private boolean readOtherSum() {
-            int code = code();
-            if (!take(Text.LESS) && !take(Text.MORE)) {
-                return false;
-            }
-            return readSum() && law.put(code);
         }
 
         private boolean readSum() {
