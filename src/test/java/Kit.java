@@ -1,4 +1,6 @@
 import java.util.function.IntSupplier;
+import java.util.function.Supplier;
+import java.util.function.ToIntFunction;
 
 /** What all tests use: tapes and texts for an object, and checks that are counted. */
 final class Kit {
@@ -33,6 +35,63 @@ final class Kit {
         }
         wrong++;
         System.out.println(what + " " + got + ", due is " + kind.getSimpleName());
+    }
+
+    static void same(String what, String got, String want) {
+        checks++;
+        if (!got.equals(want)) {
+            wrong++;
+            System.out.println(what + " shows " + got + ", due is " + want);
+        }
+    }
+
+    /** A call that is refused leaves an object as one that was never asked. */
+    static void refused(String what, Class<? extends RuntimeException> kind, Supplier<ShutFists> maker,
+            ToIntFunction<ShutFists> call) {
+        ShutFists x = maker.get();
+        raises(what, kind, () -> call.applyAsInt(x));
+        same(what + ": nothing changes", seen(x), seen(maker.get()));
+    }
+
+    /** How many bytes the tape has: to tell it, the end is put where it is. */
+    static void tapeHas(String what, ShutFists x, int n) {
+        due(what + ": no more on the tape", x.end(n + 1), false);
+        due(what + ": no less on the tape", x.end(n), true);
+    }
+
+    /** All that can be seen without using anything up, but for the tape and the fault: 190 calls at most. */
+    static String seen(ShutFists x) {
+        return x.count(9) + " acts, " + seenButActs(x);
+    }
+
+    static String seenButActs(ShutFists x) {
+        StringBuilder seen = new StringBuilder();
+        for (int what = 0; what < 9; what++) {
+            seen.append(x.count(what)).append(' ');
+        }
+        for (int t = 0; t < 8; t++) {
+            seen.append("| ");
+            for (int what = 0; what < 5; what++) {
+                seen.append(x.thing(t, what)).append(' ');
+            }
+        }
+        int children = x.count(0);
+        for (int c = 0; c < children; c++) {
+            seen.append("/ ");
+            for (int what = 0; what < 12; what++) {
+                seen.append(x.child(c, what)).append(' ');
+            }
+        }
+        int rows = x.count(8);
+        for (int ago = 0; ago < rows; ago++) {
+            seen.append("# ");
+            for (int what = 0; what < 5; what++) {
+                seen.append(x.log(ago, what)).append(' ');
+            }
+        }
+        int seed = x.seed(0);
+        x.seed(seed);
+        return seen.append("seed ").append(seed).toString();
     }
 
     /** Puts just these bytes on the tape of an object. */

@@ -23,10 +23,10 @@ public final class LawTest {
 
     public static void main(String[] args) {
         Random random = new Random(11);
-        ShutFists x = Kit.parish("thing b meant 1 size 3 warm 4 worth 50;child a age 7 grip 1;child b age 2 grip 0 wish b;"
-                + "child none age 3 grip 0;child a;knot 3 0;month 6");
-        x.move(1, 2);
         for (int run = 0; run < 400; run++) {
+            ShutFists x = Kit.parish("thing b meant 1 size 3 warm 4 worth 50;child a age 7 grip 1;child b age 2 grip 0 wish b;"
+                    + "child none age 3 grip 0;child a;knot 3 0;month 6");
+            x.move(1, 2);
             int c = random.nextInt(4);
             int[] values = {c, x.child(c, 0), x.child(c, 3), c == 1 ? 3 : 0, c == 1 ? 4 : 0, c == 1 ? 50 : 0, c == 1 ? 4 : 5, 6};
             new LawTest(random, values, c == 0 || c == 3, c == 1, c == 2).check(x, c);

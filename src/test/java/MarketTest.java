@@ -4,6 +4,7 @@ import java.util.Random;
 public final class MarketTest {
     private static final String WORTHS = "thing a meant 1 size 0 warm 0 worth 40;thing b meant 1 size 0 warm 0 worth 40;"
             + "thing c meant 0 size 0 warm 0 worth 90;thing d meant 1 size 0 warm 0 worth 10;";
+    private static final int[] WORTH = {40, 40, 90, 10, 0};
 
     public static void main(String[] args) {
         gives();
@@ -168,36 +169,39 @@ public final class MarketTest {
     /** Gifts and sets against all ways there are; trades against the rule that no set of children would leave them. */
     private static void byForce() {
         Random random = new Random(3);
-        for (int run = 0; run < 60; run++) {
-            int n = 1 + random.nextInt(6);
-            StringBuilder keeps = new StringBuilder();
-            StringBuilder wishes = new StringBuilder();
+        for (int run = 0; run < 200; run++) {
+            int n = 1 + random.nextInt(8);
+            int[] keeps = new int[n];
+            int[] wishes = new int[n];
+            StringBuilder kept = new StringBuilder();
+            StringBuilder wished = new StringBuilder();
             for (int c = 0; c < n; c++) {
-                keeps.append(".abcde".charAt(random.nextInt(6)));
-                wishes.append("..abcde".charAt(random.nextInt(7)));
+                keeps[c] = random.nextInt(6) - 1;
+                wishes[c] = Math.max(random.nextInt(7) - 2, -1);
+                kept.append(".abcde".charAt(keeps[c] + 1));
+                wished.append(".abcde".charAt(wishes[c] + 1));
             }
-            ShutFists x = opened(keeps.toString(), wishes.toString());
-            String name = keeps + " " + wishes;
-            int[] best = firstGifts(x, n);
-            int given = 0;
+            ShutFists x = opened(kept.toString(), wished.toString());
+            String name = kept + " " + wished;
+            int[] best = firstGifts(keeps, wishes);
             for (int c = 0; c < n; c++) {
                 Kit.due("gives " + c + " of " + name, x.gives(c), best[c]);
-                given += best[c] >= 0 ? 1 : 0;
             }
-            Kit.due("gives of " + name, x.gives(-1), given);
-            Kit.due("all of " + name, x.all(), leastSet(x, n));
-            checkTrade(x, n, name);
+            Kit.due("gives of " + name, x.gives(-1), gifts(best));
+            Kit.due("all of " + name, x.all(), leastSet(keeps));
+            checkTrade(x, keeps, wishes, name);
+            checkSwaps(x, keeps, wishes, name);
         }
     }
 
-    private static int[] firstGifts(ShutFists x, int n) {
+    private static int[] firstGifts(int[] keeps, int[] wishes) {
         int[][] best = new int[1][];
-        search(x, new int[n], 0, best);
+        search(keeps, wishes, new int[keeps.length], 0, best);
         return best[0];
     }
 
     /** Goes through all ways in their order, and keeps the first of those with the most gifts. */
-    private static void search(ShutFists x, int[] way, int c, int[][] best) {
+    private static void search(int[] keeps, int[] wishes, int[] way, int c, int[][] best) {
         if (c == way.length) {
             if (best[0] == null || gifts(way) > gifts(best[0])) {
                 best[0] = way.clone();
@@ -206,7 +210,7 @@ public final class MarketTest {
         }
         for (int i = -1; i <= way.length; i++) {
             int to = i == -1 ? c : i == way.length ? -1 : i;
-            if (i == c || to >= 0 && (x.child(c, 5) < 0 || x.child(to, 4) != x.child(c, 5))) {
+            if (i == c || to >= 0 && (keeps[c] < 0 || wishes[to] != keeps[c])) {
                 continue;
             }
             boolean taken = false;
@@ -215,7 +219,7 @@ public final class MarketTest {
             }
             if (!taken) {
                 way[c] = to;
-                search(x, way, c + 1, best);
+                search(keeps, wishes, way, c + 1, best);
             }
         }
     }
@@ -228,11 +232,11 @@ public final class MarketTest {
         return given;
     }
 
-    private static int leastSet(ShutFists x, int n) {
+    private static int leastSet(int[] keeps) {
         int best = -1;
-        int wanted = things(x, (1 << n) - 1);
-        for (int set = 0; set < 1 << n; set++) {
-            boolean all = things(x, set) == wanted;
+        int wanted = things(keeps, (1 << keeps.length) - 1);
+        for (int set = 0; set < 1 << keeps.length; set++) {
+            boolean all = things(keeps, set) == wanted;
             if (all && (best < 0 || Integer.bitCount(set) < Integer.bitCount(best))) {
                 best = set;
             }
@@ -240,30 +244,30 @@ public final class MarketTest {
         return best;
     }
 
-    private static int things(ShutFists x, int set) {
+    private static int things(int[] keeps, int set) {
         int bits = 0;
-        for (int c = 0; c < x.count(0); c++) {
-            if ((set >> c & 1) != 0 && x.child(c, 5) >= 0) {
-                bits |= 1 << x.child(c, 5);
+        for (int c = 0; c < keeps.length; c++) {
+            if ((set >> c & 1) != 0 && keeps[c] >= 0) {
+                bits |= 1 << keeps[c];
             }
         }
         return bits;
     }
 
-    private static int likes(ShutFists x, int child, int owner) {
-        int thing = x.child(owner, 5);
-        return thing == x.child(child, 4) ? 100 : x.thing(thing, 3);
+    private static int likes(int[] keeps, int[] wishes, int child, int owner) {
+        return keeps[owner] == wishes[child] ? 100 : WORTH[keeps[owner]];
     }
 
-    private static void checkTrade(ShutFists x, int n, String name) {
-        int[] gets = trade(x, n);
-        for (int c = 0; c < n; c++) {
+    private static void checkTrade(ShutFists x, int[] keeps, int[] wishes, String name) {
+        int[] gets = trade(keeps, wishes);
+        for (int c = 0; c < keeps.length; c++) {
             Kit.due("trade " + c + " of " + name, x.trade(c), gets[c]);
             if (gets[c] < 0) {
                 Kit.due("ring " + c + " of " + name, x.ring(c), 0);
                 continue;
             }
-            Kit.due("none gets what it likes less: " + name, likes(x, c, gets[c]) >= likes(x, c, c), true);
+            boolean worse = likes(keeps, wishes, c, gets[c]) < likes(keeps, wishes, c, c);
+            Kit.due("none gets what it likes less: " + name, worse, false);
             int length = 1;
             for (int at = gets[c]; at != c; at = gets[at]) {
                 length++;
@@ -273,22 +277,22 @@ public final class MarketTest {
     }
 
     /** One ring at a time, found by walking the pointers from the greatest child that is left. */
-    private static int[] trade(ShutFists x, int n) {
-        int[] gets = new int[n];
+    private static int[] trade(int[] keeps, int[] wishes) {
+        int[] gets = new int[keeps.length];
         int left = 0;
-        for (int c = 0; c < n; c++) {
+        for (int c = 0; c < keeps.length; c++) {
             gets[c] = -1;
-            left |= x.child(c, 5) >= 0 ? 1 << c : 0;
+            left |= keeps[c] >= 0 ? 1 << c : 0;
         }
         while (left != 0) {
             int at = 31 - Integer.numberOfLeadingZeros(left);
-            for (int i = 0; i < n; i++) {
-                at = points(x, at, left);
+            for (int i = 0; i < keeps.length; i++) {
+                at = points(keeps, wishes, at, left);
             }
             int stop = at;
             int ring = 0;
             do {
-                int to = points(x, at, left);
+                int to = points(keeps, wishes, at, left);
                 gets[at] = to;
                 ring |= 1 << at;
                 at = to;
@@ -298,15 +302,28 @@ public final class MarketTest {
         return gets;
     }
 
-    private static int points(ShutFists x, int child, int left) {
+    private static int points(int[] keeps, int[] wishes, int child, int left) {
         int most = -1;
         int best = -1;
-        for (int c = 0; c < x.count(0); c++) {
-            if ((left >> c & 1) != 0 && likes(x, child, c) > most) {
-                most = likes(x, child, c);
+        for (int c = 0; c < keeps.length; c++) {
+            if ((left >> c & 1) != 0 && likes(keeps, wishes, child, c) > most) {
+                most = likes(keeps, wishes, child, c);
                 best = c;
             }
         }
-        return likes(x, child, child) == most ? child : best;
+        return likes(keeps, wishes, child, child) == most ? child : best;
+    }
+
+    private static void checkSwaps(ShutFists x, int[] keeps, int[] wishes, String name) {
+        for (int c = 0; c < keeps.length; c++) {
+            for (int d = 0; d < keeps.length; d++) {
+                if (c != d) {
+                    boolean both = keeps[c] >= 0 && keeps[d] >= 0
+                            && likes(keeps, wishes, c, d) > likes(keeps, wishes, c, c)
+                            && likes(keeps, wishes, d, c) > likes(keeps, wishes, d, d);
+                    Kit.due("swap of " + c + " and " + d + " of " + name, x.swap(c, d), both);
+                }
+            }
+        }
     }
 }
