@@ -38,6 +38,8 @@ public final class EdgeActTest {
         undoLeavesTapeFaultAndImage();
         backWithoutImage();
         backToAll();
+        backToTheLog();
+        undoOfAnotherOpening();
         backForgetsActs();
         backLeavesTapeAndFault();
         imageOfNobody();
@@ -596,6 +598,36 @@ public final class EdgeActTest {
         x.months(100);
         Kit.due("back again", x.back(), true);
         Kit.same("an image can be gone back to again", Kit.seenButActs(x), before);
+    }
+
+    private static void backToTheLog() {
+        ShutFists x = Kit.parish("child a age 3;child b age 4;month 7");
+        x.move(0, 0);
+        x.move(0, 1);
+        x.move(0, 2);
+        x.move(0, 3);
+        x.move(0, 4);
+        x.image();
+        String before = Kit.seenButActs(x);
+        x.undo();
+        Kit.openFist(x, 1);
+        Kit.due("another one is the first of the log", x.log(0, 1), 1);
+        Kit.due("back", x.back(), true);
+        Kit.same("the log is as it was kept", Kit.seenButActs(x), before);
+        Kit.due("led", x.led(0, true), 0);
+        Kit.due("not led", x.led(1, true), -1);
+    }
+
+    private static void undoOfAnotherOpening() {
+        ShutFists x = Kit.parish("child a;child b;child c");
+        Kit.openFist(x, 0);
+        Kit.openFist(x, 1);
+        x.undo();
+        Kit.openFist(x, 2);
+        Kit.due("rows", x.count(8), 2);
+        Kit.due("the one opened in place of it", x.log(0, 1), 2);
+        Kit.due("the one ahead of both", x.log(1, 1), 0);
+        Kit.due("the undone one has no row", x.led(1, false), -1);
     }
 
     private static void backForgetsActs() {

@@ -167,8 +167,10 @@ public final class EdgeAheadTest {
         ShutFists x = Kit.parish("child none grip 0;child none grip 0;child none");
         Kit.law(x, "loosen 40;lead 100;lead 100;lead 100;lead 100;lead 100;lead 100;lead 100;lead 100;lead 100;lead 100;lead 1 if child < 1");
         Kit.due("fates", x.fates(5), 1998);
-        x.months(100);
-        Kit.due("trial", x.trial(0, true), x.count(6));
+        Kit.law(x, "loosen 100 if child < 2;lead 100;lead 100;lead 100;lead 100;lead 100;lead 100;lead 100;lead 100;lead 100;lead 100;lead 1 if child < 1");
+        Kit.due("trial", x.trial(5, true), 1998);
+        Kit.due("months", x.months(5), 2);
+        Kit.due("fate", x.count(6), 1998);
     }
 
     private static void waitsOfOpened() {

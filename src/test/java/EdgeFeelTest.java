@@ -34,6 +34,7 @@ public final class EdgeFeelTest {
         tellOfSeveral();
         restsOfNone();
         restsOfOpened();
+        restsWithoutARow();
         restsOfLikeChoices();
         nothingOutOfBounds();
         nothingOfNoBirth();
@@ -353,6 +354,20 @@ public final class EdgeFeelTest {
         ShutFists x = Kit.tape(resting(), 0, 9, 3, 3);
         Kit.due("no row counts", x.rests(0), 1);
         Kit.tapeHas("the tape is left alone", x, 4);
+    }
+
+    /** What was told of other feels or lives ahead of it does not count. */
+    private static void restsWithoutARow() {
+        ShutFists x = resting();
+        Kit.due("none fits what is felt", Kit.tape(x, 0, 9).feels(0), 0);
+        Kit.due("rests behind feels", x.rests(0), 1);
+        Kit.tape(x, 2, 9).ask();
+        Kit.due("rests behind ask", x.rests(0), 1);
+        Kit.tape(x, 1, 9).odds(0);
+        Kit.due("rests behind odds", x.rests(0), 1);
+        Kit.tape(x, 1, 7, 2, 7).rules(true);
+        Kit.due("rests behind rules", x.rests(0), 1);
+        Kit.due("feels without a row behind all", Kit.tape(x).feels(0), 511);
     }
 
     /** Expect is 2, 1 and 0 here; a grip of 0 makes opened and held as good as let be and held. */

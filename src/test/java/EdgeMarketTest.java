@@ -16,6 +16,8 @@ public final class EdgeMarketTest {
         tradesByWorth();
         tradesByWishes();
         tradesOfWorth0();
+        tradesOfWhatIsKeptNow();
+        swapsOfWhatIsKeptNow();
         ringsOfOneToEight();
         swapsOfNone();
         swapsOfOne();
@@ -194,6 +196,35 @@ public final class EdgeMarketTest {
             Kit.due("alone", x.ring(c), 1);
         }
         Kit.due("worth 1 above worth 0", opened(worths(0, 1, 0, 0), "ab", "ba").ring(0), 2);
+    }
+
+    /** What is inside stays, but it is traded no more when it was blown on or changed. */
+    private static void tradesOfWhatIsKeptNow() {
+        ShutFists x = opened(worths(10, 20, 30, 40), "ab", "ba", "c.");
+        Kit.due("a ring of two", x.ring(0), 2);
+        x.blow(1);
+        Kit.due("its wish is kept by none: the c", x.trade(0), 0);
+        Kit.due("alone", x.ring(0), 1);
+        Kit.due("it keeps nothing now", x.trade(1), -1);
+        Kit.due("no ring", x.ring(1), 0);
+        x.change(1, 2);
+        Kit.due("the c has gone to 1", x.trade(1), 0);
+        Kit.due("who wants the a, as 0 wants the c", x.trade(0), 1);
+        Kit.due("none for 2", x.trade(2), -1);
+        Kit.due("no ring", x.ring(2), 0);
+    }
+
+    private static void swapsOfWhatIsKeptNow() {
+        ShutFists x = opened(worths(10, 20, 30, 40), "ab", "ba", "c.");
+        Kit.due("both would rather", x.swap(0, 1), true);
+        x.change(0, 1);
+        Kit.due("both have their wishes", x.swap(0, 1), false);
+        x.change(1, 2);
+        Kit.due("0 keeps its wish", x.swap(0, 1), false);
+        Kit.due("1 wants the a of 2, who wants the c", x.swap(1, 2), true);
+        x.blow(2);
+        Kit.due("2 keeps nothing", x.swap(1, 2), false);
+        Kit.due("nor the other way", x.swap(2, 1), false);
     }
 
     private static void ringsOfOneToEight() {

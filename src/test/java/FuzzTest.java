@@ -26,6 +26,10 @@ public final class FuzzTest {
             return 3 + (tape == null ? 0 : 2 + (tape.length + 19) / 20);
         }
 
+        boolean changes() {
+            return call < 10 || call == 37 || call == 38 || call == 39 || call == 44;
+        }
+
         /** How many bytes the tape has behind this call. */
         int tapeBehind(int before, int answer) {
             if (call == 10 && answer > 0) {
@@ -122,6 +126,7 @@ public final class FuzzTest {
         for (int seed = 0; seed < 1000; seed++) {
             new FuzzTest(seed).wild();
             new FuzzTest(seed).undone();
+            new FuzzTest(seed).asked();
         }
         Kit.close("FuzzTest");
     }
@@ -164,6 +169,46 @@ public final class FuzzTest {
         return e.getClass() == IndexOutOfBoundsException.class || e.getClass() == NoSuchElementException.class
                 || e.getClass() == IllegalArgumentException.class || e.getClass() == IllegalStateException.class
                 || e.getClass() == UnsupportedOperationException.class;
+    }
+
+    /** What was asked before does not count: a twin that was asked nothing answers all alike. */
+    private void asked() {
+        ShutFists x = new ShutFists();
+        ShutFists twin = new ShutFists();
+        int calls = 0;
+        for (int i = 0; calls < MOST_CALLS; i++) {
+            Step step = i < 2 ? new Step(bytes(i == 0 ? text(PARISHES, 8) : text(LAWS, 5)), 8 + i, 0, 0, false) : anyStep();
+            calls += step.calls();
+            long answer = answerOrKind(step, x);
+            if (step.changes()) {
+                Kit.due("call " + step.call(), answerOrKind(step, twin), answer);
+            }
+        }
+        for (int call = 11; call < CALLS; call++) {
+            Step step = new Step(tapeFor(call), call, random.nextInt(5), random.nextInt(5), random.nextBoolean());
+            Kit.due("asked at the end " + call, answerOrKind(step, x), answerOrKind(step, twin));
+        }
+    }
+
+    /** Half of these are acts, so that there is something to be asked. */
+    private Step anyStep() {
+        Step step = step(random.nextBoolean() ? random.nextInt(8) : random.nextInt(CALLS));
+        // A text must not be what a question left on the tape.
+        return step.call() == 8 || step.call() == 9 ? new Step(someTape(), step.call(), 0, 0, false) : step;
+    }
+
+    private int[] tapeFor(int call) {
+        boolean rows = call == 16 || call == 17 || call == 18 || call == 28 || call == 29;
+        return rows && random.nextBoolean() ? new int[] {random.nextInt(3), random.nextInt(11)} : new int[0];
+    }
+
+    private static long answerOrKind(Step step, ShutFists x) {
+        try {
+            return step.on(x);
+        } catch (RuntimeException e) {
+            Kit.due("call " + step.call() + " threw " + e, isPlain(e), true);
+            return Integer.MIN_VALUE - (long) e.getClass().getSimpleName().length();
+        }
     }
 
     private void undone() {
