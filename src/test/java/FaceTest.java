@@ -71,7 +71,21 @@ public final class FaceTest {
         constants();
         constructors();
         methods();
+        readme();
         Kit.close("FaceTest");
+    }
+
+    /** The example that README.md shows. */
+    private static void readme() {
+        ShutFists x = new ShutFists();
+        x.feed(0x6368696c, 0x64206120, 0x67726970, 0x20300000, 0);
+        x.end(14);
+        Kit.due("README: parish", x.parish(), 1);
+        Kit.due("README: months", x.months(12), 0);
+        Kit.due("README: age", x.child(0, 0), 12);
+        Kit.due("README: move", x.move(0, 0), 30);
+        Kit.due("README: undo", x.undo(), true);
+        Kit.due("README: shut", x.child(0, 2), 31);
     }
 
     private static void constants() {
