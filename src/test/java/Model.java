@@ -13,7 +13,7 @@ import java.util.regex.Matcher;
 import java.util.regex.Pattern;
 
 /**
- * The parish once more, written from the document alone: in its plainest words, with the whole library, and by force
+ * The parish once more, after the document's words: in the plainest way, with the whole library, and by force
  * where the program is clever. Each method answers and throws as that of the face does.
  */
 final class Model {

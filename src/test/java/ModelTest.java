@@ -5,7 +5,7 @@ import java.util.Random;
 import java.util.function.IntSupplier;
 
 /**
- * All promises, by a second parish that is written from the document alone, in its plainest words and by force:
+ * All promises, by a second parish that is written after the document's words, in the plainest way and by force:
  * whatever is called by chance, both answer or throw the same.
  */
 public final class ModelTest {
